@@ -195,18 +195,19 @@ public final class MergeGrid {
     }
 
     public int selected(char side) throws IllegalArgumentException {
-        switch (side) {
-            case 't':
-                return selection.top;
-            case 'b':
-                return selection.bottom;
-            case 'l':
-                return selection.left;
-            case 'r':
-                return selection.right;
-            default:
-                throw new IllegalArgumentException("no such side");
+        if (side == 't') {
+            return selection.top;
         }
+        if (side == 'b') {
+            return selection.bottom;
+        }
+        if (side == 'l') {
+            return selection.left;
+        }
+        if (side == 'r') {
+            return selection.right;
+        }
+        throw new IllegalArgumentException("no such side");
     }
 
     public int selectedCells() {
@@ -292,7 +293,7 @@ public final class MergeGrid {
             throw new UnsupportedOperationException("in the header and in the body");
         }
         remember();
-        now.put(block, sketch);
+        now.put(block, sketch, down, across);
         selectFirst();
         return block.cells.size * down * across;
     }
@@ -1068,15 +1069,12 @@ public final class MergeGrid {
             settle();
         }
 
-        /** Fills an area, which is a multiple of the block, with copies of it. */
-        void put(Block block, Area area) {
-            if (block.isNothing()) {
-                return;
-            }
+        /** Fills an area, which is as great as all these copies of the block together. */
+        void put(Block block, Area area, int down, int across) {
             cells.removeIn(area);
-            for (int row = area.top; row <= area.bottom; row += block.rows) {
-                for (int column = area.left; column <= area.right; column += block.columns) {
-                    putOne(block.cells, row, column);
+            for (int i = 0; i < down; i++) {
+                for (int j = 0; j < across; j++) {
+                    putOne(block.cells, area.top + i * block.rows, area.left + j * block.columns);
                 }
             }
             settle();

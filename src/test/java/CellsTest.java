@@ -16,6 +16,7 @@ public final class CellsTest {
         promise24Exceptions();
         promise26Copy();
         promise27Paste();
+        promise27PasteFromTheMiddle();
         promise27PasteKeepsTheCopy();
         promise27Exceptions();
         promise27Header();
@@ -172,6 +173,22 @@ public final class CellsTest {
         ANSWERS.due("paste(0, 0, 4, 4) of a square", square.paste(0, 0, 4, 4), 16);
     }
 
+    private static void promise27PasteFromTheMiddle() {
+        MergeGrid grid = Grids.numbered();
+        grid.setContent(1, 2, 0);
+        Grids.merged(grid, 1, 2, 1, 3);
+        grid.setContent(1, 3, 70);
+        grid.select(1, 1, 2, 3);
+        ANSWERS.due("copy() from the middle", grid.copy(), 5);
+        ANSWERS.due("paste(2, 0, 1, 1)", grid.paste(2, 0, 1, 1), 5);
+        ANSWERS.due("its first cell", Look.square(grid, 2, 0), "2,0+1x1:6/1");
+        ANSWERS.due("its wide cell", Look.square(grid, 2, 2), "2,1+1x2:70/1");
+        ANSWERS.due("its second row", Grids.contents(grid, 0) + ", " + Grids.contents(grid, 2), "1 5 6 10, 3 70 70 12");
+        ANSWERS.due("a square beside it", Look.square(grid, 3, 3), "3,3+1x1:16/3");
+        ANSWERS.due("what was copied stays", Look.square(grid, 1, 3), "1,2+1x2:70/1");
+        ANSWERS.due("cellCount()", grid.cellCount(), 14);
+    }
+
     private static void promise27PasteKeepsTheCopy() {
         MergeGrid grid = withBlock();
         grid.deleteRow(0);
@@ -213,6 +230,11 @@ public final class CellsTest {
         ANSWERS.dueThrow("paste(0, 1, 1, 1) on a half cell", grid, UNSUPPORTED, () -> grid.paste(0, 1, 1, 1));
         ANSWERS.dueThrow("paste(0, 1, 4, 1) beyond it", grid, STATE, () -> grid.paste(0, 1, 4, 1));
         ANSWERS.due("paste(0, 0, 1, 2) on a whole cell", grid.paste(0, 0, 1, 2), 6);
+        MergeGrid one = new MergeGrid();
+        one.copy();
+        Grids.merged(one, 0, 0, 3, 3);
+        ANSWERS.dueThrow("paste(1, 1, 2, 2) in a cell", one, UNSUPPORTED, () -> one.paste(1, 1, 2, 2));
+        ANSWERS.due("paste(0, 0, 4, 4) on it", one.paste(0, 0, 4, 4), 16);
     }
 
     private static void promise27Header() {
@@ -235,6 +257,13 @@ public final class CellsTest {
         across.setHeader(1);
         ANSWERS.dueThrow("paste(0, 1, 1, 1) across", across, UNSUPPORTED, () -> across.paste(0, 1, 1, 1));
         ANSWERS.due("paste(1, 1, 2, 1) below", across.paste(1, 1, 2, 1), 2);
+        across.takeBack();
+        across.setHeader(2);
+        ANSWERS.dueThrow("paste(1, 1, 1, 1) across", across, UNSUPPORTED, () -> across.paste(1, 1, 1, 1));
+        ANSWERS.due("paste(2, 1, 1, 1) below then", across.paste(2, 1, 1, 1), 1);
+        across.takeBack();
+        across.setHeader(4);
+        ANSWERS.due("paste(1, 1, 1, 1) in the header", across.paste(1, 1, 1, 1), 1);
         across.takeBack();
         across.split(2, 0, 's');
         across.setHeader(3);

@@ -13,6 +13,7 @@ public final class LinesTest {
         promise6InsertRow();
         promise6Header();
         promise6Exceptions();
+        promises6And8SizesOfTheGreatestTable();
         promise7InsertColumn();
         promise7Exceptions();
         promise8DeleteRow();
@@ -20,6 +21,7 @@ public final class LinesTest {
         promise8Exceptions();
         promise9DeleteColumn();
         promise9Exceptions();
+        promises7And9SizesOfTheGreatestTable();
         promise10MoveRow();
         promise10Exceptions();
         ANSWERS.end();
@@ -89,6 +91,38 @@ public final class LinesTest {
         ANSWERS.dueThrow("insertRow(-1) of 12", full, INDEX, () -> full.insertRow(-1));
         full.deleteRow(4);
         ANSWERS.due("insertRow(11) of 11", full.insertRow(11), 120);
+    }
+
+    private static void promises6And8SizesOfTheGreatestTable() {
+        MergeGrid grid = Grids.greatest();
+        for (int row = 0; row < 12; row++) {
+            grid.setHeight(row, 31 + row);
+        }
+        grid.deleteRow(0);
+        ANSWERS.due("heights without the first row", Grids.heights(grid), "32 33 34 35 36 37 38 39 40 41 42");
+        grid.setHeight(10, 77);
+        grid.insertRow(0);
+        ANSWERS.due("heights with a first row", Grids.heights(grid), "20 32 33 34 35 36 37 38 39 40 41 77");
+        grid.deleteRow(11);
+        ANSWERS.due("heights without the last row", Grids.heights(grid), "20 32 33 34 35 36 37 38 39 40 41");
+        grid.insertRow(11);
+        ANSWERS.due("heights with a last row", Grids.heights(grid), "20 32 33 34 35 36 37 38 39 40 41 20");
+    }
+
+    private static void promises7And9SizesOfTheGreatestTable() {
+        MergeGrid grid = Grids.greatest();
+        for (int column = 0; column < 10; column++) {
+            grid.setWidth(column, 31 + column);
+        }
+        grid.deleteColumn(0);
+        ANSWERS.due("widths without the first column", Grids.widths(grid), "32 33 34 35 36 37 38 39 40");
+        grid.setWidth(8, 77);
+        grid.insertColumn(0);
+        ANSWERS.due("widths with a first column", Grids.widths(grid), "50 32 33 34 35 36 37 38 39 77");
+        grid.deleteColumn(9);
+        ANSWERS.due("widths without the last column", Grids.widths(grid), "50 32 33 34 35 36 37 38 39");
+        grid.insertColumn(9);
+        ANSWERS.due("widths with a last column", Grids.widths(grid), "50 32 33 34 35 36 37 38 39 50");
     }
 
     private static void promise7InsertColumn() {
@@ -240,6 +274,9 @@ public final class LinesTest {
         Grids.merged(grid, 0, 2, 1, 2);
         ANSWERS.due("moveRow(3, 2) beside a tall cell", grid.moveRow(3, 2), 2);
         ANSWERS.due("the tall cell stays", Look.square(grid, 1, 2), "0,2+2x1:3/1");
+        grid.select(2, 2, 3, 3);
+        grid.moveRow(2, 3);
+        ANSWERS.due("the selection is the first square", Look.selection(grid), "00..00 of 1 with 5");
     }
 
     private static void promise10Exceptions() {
@@ -258,6 +295,8 @@ public final class LinesTest {
         headed.setHeader(2);
         ANSWERS.dueThrow("moveRow(1, 2) out of the header", headed, UNSUPPORTED, () -> headed.moveRow(1, 2));
         ANSWERS.dueThrow("moveRow(3, 0) into the header", headed, UNSUPPORTED, () -> headed.moveRow(3, 0));
+        MergeGrid one = Grids.merged(new MergeGrid(), 0, 0, 3, 3);
+        ANSWERS.dueThrow("moveRow(2, 1) of one cell alone", one, UNSUPPORTED, () -> one.moveRow(2, 1));
         MergeGrid wide = Grids.merged(new MergeGrid(), 1, 0, 1, 3);
         ANSWERS.due("moveRow(1, 0) of a wide cell", wide.moveRow(1, 0), 2);
         ANSWERS.due("the wide cell", Look.square(wide, 0, 3), "0,0+1x4:0/0");

@@ -14,6 +14,7 @@ public final class SelectionTest {
         promise18SetStyle();
         promises19And22Rectangle();
         promises19And22Growth();
+        promises19And22OneSide();
         promises19And22Exceptions();
         promise20Selected();
         promise21SelectedCells();
@@ -104,6 +105,20 @@ public final class SelectionTest {
         dueSquares(stair, at(11, 3), at(11, 9), 7, "113..119 of 7 with 0");
         MergeGrid inside = Grids.merged(new MergeGrid(), 0, 0, 3, 3);
         dueSquares(inside, at(1, 1), at(2, 2), 16, "00..33 of 1 with 0");
+    }
+
+    /** A cell that crosses the middle of one side alone, away from the corners. */
+    private static void promises19And22OneSide() {
+        MergeGrid left = Grids.merged(new MergeGrid(), 1, 0, 1, 1);
+        dueSquares(left, at(0, 1), at(2, 2), 9, "00..22 of 8 with 0");
+        MergeGrid right = Grids.merged(new MergeGrid(), 1, 2, 1, 3);
+        dueSquares(right, at(0, 1), at(2, 2), 9, "01..23 of 8 with 0");
+        MergeGrid top = Grids.merged(new MergeGrid(), 0, 1, 1, 1);
+        dueSquares(top, at(1, 0), at(2, 2), 9, "00..22 of 8 with 0");
+        MergeGrid bottom = Grids.merged(new MergeGrid(), 2, 1, 3, 1);
+        dueSquares(bottom, at(1, 0), at(2, 2), 9, "10..32 of 8 with 0");
+        MergeGrid within = Grids.merged(new MergeGrid(), 1, 1, 2, 2);
+        dueSquares(within, at(0, 0), at(3, 3), 16, "00..33 of 13 with 0");
     }
 
     private static void promises19And22Exceptions() {
