@@ -26,14 +26,65 @@ final class Grids {
 
     /** The greatest table, 12 rows and 10 columns. */
     static MergeGrid greatest() {
+        return sized(12, 10);
+    }
+
+    /** The least table, of one square. */
+    static MergeGrid least() {
+        return sized(1, 1);
+    }
+
+    /** An empty table with so many rows and columns. */
+    static MergeGrid sized(int rows, int columns) {
         MergeGrid grid = new MergeGrid();
-        while (grid.rows() < 12) {
+        while (grid.rows() < rows) {
             grid.insertRow(grid.rows());
         }
-        while (grid.columns() < 10) {
+        while (grid.rows() > rows) {
+            grid.deleteRow(0);
+        }
+        while (grid.columns() < columns) {
             grid.insertColumn(grid.columns());
         }
+        while (grid.columns() > columns) {
+            grid.deleteColumn(0);
+        }
         return grid;
+    }
+
+    /**
+     * A table where each square is a cell of its own and nothing is as at first: contents 1, 2, 3 .. by rows,
+     * the row's number and 1 more as the style (up to 9), sizes, a header, a copy, a selection and a last change.
+     */
+    static MergeGrid used(int rows, int columns) {
+        MergeGrid grid = sized(rows, columns);
+        for (int row = 0; row < rows; row++) {
+            grid.select(row, 0, row, columns - 1);
+            grid.setStyle(Math.min(row + 1, 9));
+            for (int column = 0; column < columns; column++) {
+                grid.setContent(row, column, row * columns + column + 1);
+            }
+            grid.setHeight(row, 21 + row);
+        }
+        for (int column = 0; column < columns; column++) {
+            grid.setWidth(column, 51 + column);
+        }
+        grid.copy();
+        grid.setHeader(rows / 2);
+        grid.setContent(rows - 1, columns - 1, 500);
+        return grid;
+    }
+
+    /** Wide and tall cells in turn, each reaching over the border of the one before, from the first corner on. */
+    static MergeGrid stair() {
+        MergeGrid stair = greatest();
+        for (int i = 0; i < 9; i++) {
+            stair.select(i + 1, i, i + 2, i);
+            stair.merge();
+            stair.select(i, i, i, i + 1);
+            stair.merge();
+        }
+        return stair;
     }
 
     /** The contents of a column from above, as a text. */

@@ -34,4 +34,41 @@ final class Look {
         return "" + grid.selected('t') + grid.selected('l') + ".." + grid.selected('b') + grid.selected('r')
                 + " of " + grid.selectedCells() + " with " + grid.sum();
     }
+
+    /** What no question tells: what would be taken back, and what was copied. It uses the grid up. */
+    static String hidden(MergeGrid grid) {
+        StringBuilder text = new StringBuilder();
+        try {
+            text.append(grid.takeBack()).append('\n').append(table(grid));
+        } catch (IllegalStateException e) {
+            text.append("nothing to take back\n");
+        }
+        makeBare(grid);
+        try {
+            text.append(grid.paste(0, 0, 1, 1)).append('\n').append(table(grid));
+        } catch (IllegalStateException e) {
+            text.append("nothing copied\n");
+        }
+        return text.toString();
+    }
+
+    /** The greatest table without contents, styles and header: whatever was copied can be pasted in it. */
+    private static void makeBare(MergeGrid grid) {
+        while (grid.rows() < 12) {
+            grid.insertRow(0);
+        }
+        while (grid.columns() < 10) {
+            grid.insertColumn(0);
+        }
+        grid.setHeader(0);
+        grid.select(0, 0, 11, 9);
+        grid.setStyle(0);
+        if (grid.sum() > 0) {
+            grid.clear();
+        }
+        if (grid.selectedCells() > 1) {
+            grid.merge();
+        }
+        grid.split(0, 0, 's');
+    }
 }

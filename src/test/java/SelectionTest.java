@@ -92,13 +92,7 @@ public final class SelectionTest {
         Grids.merged(grid, 1, 1, 2, 1);
         Grids.merged(grid, 1, 2, 1, 3);
         dueSquares(grid, at(1, 1), at(1, 2), 6, "11..23 of 3 with 0");
-        MergeGrid stair = Grids.greatest();
-        for (int i = 0; i < 9; i++) {
-            stair.select(i + 1, i, i + 2, i);
-            stair.merge();
-            stair.select(i, i, i, i + 1);
-            stair.merge();
-        }
+        MergeGrid stair = Grids.stair();
         dueSquares(stair, at(0, 0), at(0, 0), 2, "00..01 of 1 with 0");
         dueSquares(stair, at(1, 0), at(1, 1), 100, "10..109 of 83 with 0");
         dueSquares(stair, at(9, 8), at(8, 8), 6, "88..109 of 4 with 0");

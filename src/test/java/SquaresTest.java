@@ -44,20 +44,9 @@ public final class SquaresTest {
         MergeGrid greatest = Grids.greatest();
         ANSWERS.due("rows() at most", greatest.rows(), 12);
         ANSWERS.due("columns() at most", greatest.columns(), 10);
-        MergeGrid least = least();
+        MergeGrid least = Grids.least();
         ANSWERS.due("rows() at least", least.rows(), 1);
         ANSWERS.due("columns() at least", least.columns(), 1);
-    }
-
-    private static MergeGrid least() {
-        MergeGrid grid = new MergeGrid();
-        while (grid.rows() > 1) {
-            grid.deleteRow(0);
-        }
-        while (grid.columns() > 1) {
-            grid.deleteColumn(0);
-        }
-        return grid;
     }
 
     private static void dueCells(String when, MergeGrid grid, int want) {
@@ -68,7 +57,7 @@ public final class SquaresTest {
     private static void promises4And5Cells() {
         dueCells("at first", new MergeGrid(), 16);
         dueCells("of the greatest table", Grids.greatest(), 120);
-        dueCells("of the least table", least(), 1);
+        dueCells("of the least table", Grids.least(), 1);
         MergeGrid grid = Grids.merged(new MergeGrid(), 1, 1, 2, 3);
         dueCells("after a merge", grid, 11);
         grid.split(1, 1, 'r');

@@ -21,54 +21,10 @@ public final class TakeBackTest {
         ANSWERS.end();
     }
 
-    /** A table with a header, a wide and a tall cell, contents, styles and sizes. */
-    private static MergeGrid rich() {
-        MergeGrid grid = Grids.numbered();
-        grid.setContent(1, 1, 0);
-        Grids.merged(grid, 1, 1, 1, 2);
-        grid.setHeader(1);
-        grid.setWidth(2, 90);
-        grid.setHeight(2, 40);
-        grid.select(2, 2, 3, 3);
-        grid.clear();
-        grid.copy();
-        return grid;
-    }
-
-    private static Map<String, Consumer<MergeGrid>> changes() {
-        Map<String, Consumer<MergeGrid>> changes = new LinkedHashMap<>();
-        changes.put("insertRow", grid -> grid.insertRow(1));
-        changes.put("insertRow of the header", grid -> grid.insertRow(0));
-        changes.put("insertColumn", grid -> grid.insertColumn(2));
-        changes.put("deleteRow", grid -> grid.deleteRow(1));
-        changes.put("deleteRow of the header", grid -> grid.deleteRow(0));
-        changes.put("deleteColumn", grid -> grid.deleteColumn(2));
-        changes.put("moveRow", grid -> grid.moveRow(1, 3));
-        changes.put("setContent", grid -> grid.setContent(0, 0, 500));
-        changes.put("setStyle", grid -> grid.setStyle(9));
-        changes.put("merge", grid -> {
-            grid.select(2, 2, 3, 3);
-            grid.merge();
-        });
-        changes.put("split", grid -> grid.split(1, 2, 's'));
-        changes.put("clear", grid -> {
-            grid.select(0, 0, 3, 3);
-            grid.clear();
-        });
-        changes.put("paste", grid -> grid.paste(2, 0, 1, 2));
-        changes.put("setHeader", grid -> grid.setHeader(3));
-        changes.put("sort", grid -> grid.sort(0, false));
-        changes.put("setWidth", grid -> grid.setWidth(3, 20));
-        changes.put("setHeight", grid -> grid.setHeight(3, 21));
-        changes.put("drag", grid -> grid.drag(1, 30));
-        changes.put("even", grid -> grid.even(0, 2));
-        return changes;
-    }
-
     private static void eachChangeIsTakenBack() {
-        for (Map.Entry<String, Consumer<MergeGrid>> change : changes().entrySet()) {
+        for (Map.Entry<String, Consumer<MergeGrid>> change : Changes.all().entrySet()) {
             String name = change.getKey();
-            MergeGrid grid = rich();
+            MergeGrid grid = Changes.begun();
             String before = Look.table(grid);
             int cellsBefore = grid.cellCount();
             change.getValue().accept(grid);
